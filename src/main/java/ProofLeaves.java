@@ -231,7 +231,7 @@ public final class ProofLeaves {
             return;
         }
         layLeaves(n);
-        for (int width = n; width > 1; width = widthAbove(width)) {
+        for (int width = n; width > 1; width -= width / 2) {
             foldLevel(width);
         }
         copyDigest(level[0], into);
@@ -241,7 +241,7 @@ public final class ProofLeaves {
         layLeaves(n);
         pathLength = 0;
         int at = leaf;
-        for (int width = n; width > 1; width = widthAbove(width)) {
+        for (int width = n; width > 1; width -= width / 2) {
             if (hasPartner(at, width)) {
                 copyDigest(level[partnerOf(at)], path[pathLength]);
                 pathLength++;
@@ -254,7 +254,7 @@ public final class ProofLeaves {
     private static int dueLength(int number, int count) {
         int length = 0;
         int at = number;
-        for (int width = count; width > 1; width = widthAbove(width)) {
+        for (int width = count; width > 1; width -= width / 2) {
             if (hasPartner(at, width)) {
                 length++;
             }
@@ -268,7 +268,7 @@ public final class ProofLeaves {
         copyDigest(leafDigest, made);
         int at = number;
         int k = 0;
-        for (int width = count; width > 1; width = widthAbove(width)) {
+        for (int width = count; width > 1; width -= width / 2) {
             if (hasPartner(at, width)) {
                 if (partnerOf(at) > at) {
                     nodeInto(made, path[k], made);
@@ -293,7 +293,8 @@ public final class ProofLeaves {
     }
 
     // Cutting at the greatest power of two below n is the same as pairing from the left, level by
-    // level, where an odd last digest goes up as it is: so no recursion is needed.
+    // level, where an odd last digest goes up as it is: so no recursion is needed, and the level
+    // above one of some width is narrower by half of it, rounded down.
     private void foldLevel(int width) {
         for (int i = 0; i + 1 < width; i += 2) {
             nodeInto(level[i], level[i + 1], level[i / 2]);
@@ -301,10 +302,6 @@ public final class ProofLeaves {
         if (width % 2 == 1) {
             copyDigest(level[width - 1], level[width / 2]);
         }
-    }
-
-    private static int widthAbove(int width) {
-        return (width + 1) / 2;
     }
 
     private static int partnerOf(int at) {
@@ -422,7 +419,13 @@ public final class ProofLeaves {
         }
 
         void finishInto(int[] into) {
-            pad();
+            long bits = 8L * length;
+            int zeros = Math.floorMod(BLOCK_BYTES - 9 - length, BLOCK_BYTES);
+            take(128);
+            for (int i = 0; i < zeros; i++) {
+                take(0);
+            }
+            takeLong(bits);
             System.arraycopy(FIRST_STATE, 0, state, 0, WORDS);
             for (int from = 0; from + BLOCK_BYTES <= length; from += BLOCK_BYTES) {
                 spreadBlock(from);
@@ -431,16 +434,6 @@ public final class ProofLeaves {
             for (int i = 0; i < DIGEST_BYTES; i++) {
                 into[i] = state[i / 4] >>> (24 - 8 * (i % 4)) & 255;
             }
-        }
-
-        private void pad() {
-            long bits = 8L * length;
-            int zeros = Math.floorMod(BLOCK_BYTES - 9 - length, BLOCK_BYTES);
-            take(128);
-            for (int i = 0; i < zeros; i++) {
-                take(0);
-            }
-            takeLong(bits);
         }
 
         private void spreadBlock(int from) {
