@@ -8,23 +8,33 @@ final class Due {
         void run();
     }
 
+    private String about = "";
     private int looked = 0;
     private int wrong = 0;
 
+    /** What the answers from here on are about: a place of the document, and its words there. */
+    void about(String place, String words) {
+        about = place + ", '" + words + "': ";
+    }
+
     void equal(String what, long got, long want) {
-        looked++;
-        if (got != want) {
-            wrong++;
-            System.out.println(what + " answered " + got + ", due is " + want);
-        }
+        equal(what, Long.toString(got), Long.toString(want));
     }
 
     void equal(String what, String got, String want) {
         looked++;
         if (!got.equals(want)) {
             wrong++;
-            System.out.println(what + " answered " + got + ", due is " + want);
+            System.out.println(about + what + " answered " + got + ", due is " + want);
         }
+    }
+
+    void holds(String what, boolean got) {
+        equal(what, Boolean.toString(got), "true");
+    }
+
+    void fails(String what, boolean got) {
+        equal(what, Boolean.toString(got), "false");
     }
 
     /** The very class is due: a class below it, such as the machine's own, is wrong. */

@@ -1,5 +1,4 @@
 import java.nio.charset.StandardCharsets;
-import java.util.ArrayList;
 import java.util.List;
 
 /**
@@ -14,10 +13,6 @@ public final class PromiseTest {
 
     private static final int[] NO_BYTES = {-1, 32, Integer.MIN_VALUE, Integer.MAX_VALUE};
     private static final int[] NO_MASKS = {0, 256, -1, 257, Integer.MIN_VALUE, Integer.MAX_VALUE};
-
-    // Of FIPS 180-4 itself, and of RFC 6962's own examples: not of this program or of the library.
-    private static final String OF_NO_BYTES = "e3b0c44298fc1c149afbf4c8996fb92427ae41e4649b934ca495991b7852b855";
-    private static final String OF_EMPTY_LEAF = "6e340b9cffb37a989ca544e6bb780a2c78901d3fb33738768511a30617afa01d";
 
     private final Due due = new Due();
 
@@ -47,77 +42,6 @@ public final class PromiseTest {
         test.promise15Mark();
         test.promise16Poke();
         test.due.end();
-    }
-
-    private static String hex(byte[] bytes) {
-        StringBuilder text = new StringBuilder();
-        for (byte one : bytes) {
-            text.append(String.format("%02x", one));
-        }
-        return text.toString();
-    }
-
-    private static String leafHex(ProofLeaves x, int leaf) {
-        StringBuilder text = new StringBuilder();
-        for (int i = 0; i < 32; i++) {
-            text.append(String.format("%02x", x.digest(leaf, i)));
-        }
-        return text.toString();
-    }
-
-    private static String rootHex(ProofLeaves x, int day) {
-        StringBuilder text = new StringBuilder();
-        for (int i = 0; i < 32; i++) {
-            text.append(String.format("%02x", x.root(day, i)));
-        }
-        return text.toString();
-    }
-
-    private static String proofHex(ProofLeaves x, int k) {
-        StringBuilder text = new StringBuilder();
-        for (int i = 0; i < 32; i++) {
-            text.append(String.format("%02x", x.proof(k, i)));
-        }
-        return text.toString();
-    }
-
-    private static byte[] bytesOf(ProofLeaves x, int leaf) {
-        byte[] bytes = new byte[32];
-        for (int i = 0; i < 32; i++) {
-            bytes[i] = (byte) x.digest(leaf, i);
-        }
-        return bytes;
-    }
-
-    private static List<byte[]> firstLeaves(ProofLeaves x, int n) {
-        List<byte[]> leaves = new ArrayList<>();
-        for (int leaf = 0; leaf < n; leaf++) {
-            leaves.add(bytesOf(x, leaf));
-        }
-        return leaves;
-    }
-
-    /** The digests of the leaves that withLeaves makes, without a call. */
-    private static List<byte[]> plainLeaves(int n) {
-        List<byte[]> leaves = new ArrayList<>();
-        for (int leaf = 0; leaf < n; leaf++) {
-            leaves.add(Model.leafDigest(new byte[] {(byte) leaf}));
-        }
-        return leaves;
-    }
-
-    /** Leaves of one byte each: 0, 1, .. */
-    private static ProofLeaves withLeaves(int n) {
-        ProofLeaves x = new ProofLeaves();
-        addLeaves(x, n);
-        return x;
-    }
-
-    private static void addLeaves(ProofLeaves x, int n) {
-        for (int leaf = 0; leaf < n; leaf++) {
-            x.feed(leaf, 1);
-            x.leaf();
-        }
     }
 
     private void promise1NewObject() {
@@ -158,7 +82,8 @@ public final class PromiseTest {
         told[9] = (byte) 0xff;
         told[10] = 0x12;
         told[11] = 0x34;
-        due.equal("2: the highest of the lowest n goes first", leafHex(x, 0), hex(Model.leafDigest(told)));
+        due.equal("2: the highest of the lowest n goes first",
+                Sample.leafHex(x, 0), Sample.hex(Model.leafDigest(told)));
         due.equal("2: the tape is used up", x.feed(bytes, 1), 1);
     }
 
@@ -180,14 +105,14 @@ public final class PromiseTest {
     private void promise3Leaf() {
         ProofLeaves x = new ProofLeaves();
         due.equal("3: leaf of an empty tape", x.leaf(), 0);
-        due.equal("3: its digest", leafHex(x, 0), OF_EMPTY_LEAF);
+        due.equal("3: its digest", Sample.leafHex(x, 0), Sample.OF_EMPTY_LEAF);
         x.feed('a', 1);
         x.feed('b' << 8 | 'c', 2);
         due.equal("3: the next number", x.leaf(), 1);
-        due.equal("3: a byte 0 goes ahead", leafHex(x, 1),
-                hex(Model.leafDigest("abc".getBytes(StandardCharsets.US_ASCII))));
+        due.equal("3: a byte 0 goes ahead", Sample.leafHex(x, 1),
+                Sample.hex(Model.leafDigest("abc".getBytes(StandardCharsets.US_ASCII))));
         due.equal("3: the same bytes may come again", x.leaf(), 2);
-        due.equal("3: the tape was used up", leafHex(x, 2), OF_EMPTY_LEAF);
+        due.equal("3: the tape was used up", Sample.leafHex(x, 2), Sample.OF_EMPTY_LEAF);
     }
 
     // The padding goes into a block of its own, or not, by the length alone.
@@ -200,7 +125,7 @@ public final class PromiseTest {
                 x.feed(bytes[i], 1);
             }
             x.leaf();
-            due.equal("3: a leaf of " + length + " bytes", leafHex(x, 0), hex(Model.leafDigest(bytes)));
+            due.equal("3: a leaf of " + length + " bytes", Sample.leafHex(x, 0), Sample.hex(Model.leafDigest(bytes)));
         }
     }
 
@@ -222,11 +147,11 @@ public final class PromiseTest {
             due.equal("4: close()", x.close(), day);
             x.leaf();
         }
-        String latest = rootHex(x, 11);
+        String latest = Sample.rootHex(x, 11);
         due.thrown("4: a 13th day", MEANING, x::close);
         due.thrown("4: no day came of it", INDEX, () -> x.count(12));
         due.equal("4: the latest stays", x.count(11), 11);
-        due.equal("4: the latest root stays", rootHex(x, 11), latest);
+        due.equal("4: the latest root stays", Sample.rootHex(x, 11), latest);
         due.equal("4: leaves may still come", x.leaf(), 12);
 
         ProofLeaves y = new ProofLeaves();
@@ -238,15 +163,16 @@ public final class PromiseTest {
     private void promise5Root() {
         ProofLeaves x = new ProofLeaves();
         x.close();
-        due.equal("5: of no leaves", rootHex(x, 0), OF_NO_BYTES);
+        due.equal("5: of no leaves", Sample.rootHex(x, 0), Sample.OF_NO_BYTES);
         x.leaf();
         x.close();
-        due.equal("5: of one leaf its digest", rootHex(x, 1), OF_EMPTY_LEAF);
+        due.equal("5: of one leaf its digest", Sample.rootHex(x, 1), Sample.OF_EMPTY_LEAF);
         x.feed(0, 1);
         x.leaf();
         x.close();
-        due.equal("5: of two leaves their node", rootHex(x, 2), hex(Model.node(bytesOf(x, 0), bytesOf(x, 1))));
-        due.equal("5: an earlier day's root stays", rootHex(x, 0), OF_NO_BYTES);
+        due.equal("5: of two leaves their node",
+                Sample.rootHex(x, 2), Sample.hex(Model.node(Sample.leafBytes(x, 0), Sample.leafBytes(x, 1))));
+        due.equal("5: an earlier day's root stays", Sample.rootHex(x, 0), Sample.OF_NO_BYTES);
         for (int i : NO_BYTES) {
             due.thrown("5: root(0, " + i + ")", INDEX, () -> x.root(0, i));
         }
@@ -257,16 +183,18 @@ public final class PromiseTest {
 
     private void promise5RootOfEveryCount() {
         for (int n = 0; n <= 24; n++) {
-            ProofLeaves x = withLeaves(n);
+            ProofLeaves x = Sample.withLeaves(n);
             x.close();
-            due.equal("5: root of " + n + " leaves", rootHex(x, 0), hex(Model.tree(plainLeaves(n))));
+            due.equal("5: root of " + n + " leaves",
+                    Sample.rootHex(x, 0), Sample.hex(Model.tree(Sample.plainLeaves(n))));
         }
     }
 
     private void promise6Digest() {
-        ProofLeaves x = withLeaves(3);
+        ProofLeaves x = Sample.withLeaves(3);
         for (int leaf = 0; leaf < 3; leaf++) {
-            due.equal("6: digest of leaf " + leaf, leafHex(x, leaf), hex(Model.leafDigest(new byte[] {(byte) leaf})));
+            due.equal("6: digest of leaf " + leaf,
+                    Sample.leafHex(x, leaf), Sample.hex(Model.leafDigest(new byte[] {(byte) leaf})));
         }
         for (int i : NO_BYTES) {
             due.thrown("6: digest(0, " + i + ")", INDEX, () -> x.digest(0, i));
@@ -279,10 +207,10 @@ public final class PromiseTest {
     private void promise7Count() {
         ProofLeaves x = new ProofLeaves();
         x.close();
-        addLeaves(x, 3);
+        Sample.addLeaves(x, 3);
         x.close();
         x.close();
-        addLeaves(x, 21);
+        Sample.addLeaves(x, 21);
         x.close();
         due.equal("7: no leaves", x.count(0), 0);
         due.equal("7: three leaves", x.count(1), 3);
@@ -296,13 +224,13 @@ public final class PromiseTest {
     private void promise8Prove() {
         ProofLeaves x = new ProofLeaves();
         x.close();
-        addLeaves(x, 1);
+        Sample.addLeaves(x, 1);
         x.close();
-        addLeaves(x, 1);
+        Sample.addLeaves(x, 1);
         x.close();
         due.equal("8: of one leaf none", x.prove(0, 1), 0);
         due.equal("8: of two leaves one", x.prove(1, 2), 1);
-        String latest = proofHex(x, 0);
+        String latest = Sample.proofHex(x, 0);
         due.thrown("8: the leaf came later", TURN, () -> x.prove(1, 1));
         due.thrown("8: no leaf came before", TURN, () -> x.prove(0, 0));
         due.thrown("8: no such leaf, ahead of turn", INDEX, () -> x.prove(2, 0));
@@ -310,24 +238,24 @@ public final class PromiseTest {
         due.thrown("8: no such day", INDEX, () -> x.prove(0, 3));
         due.thrown("8: no such day", INDEX, () -> x.prove(0, -1));
         due.thrown("8: neither", INDEX, () -> x.prove(Integer.MAX_VALUE, Integer.MIN_VALUE));
-        due.equal("8: the latest proof stays behind a throw", proofHex(x, 0), latest);
+        due.equal("8: the latest proof stays behind a throw", Sample.proofHex(x, 0), latest);
         due.thrown("8: and is no longer", INDEX, () -> x.proof(1, 0));
         x.poke(0, 3, 4);
-        due.equal("8: a made proof stays as it was made", proofHex(x, 0), latest);
+        due.equal("8: a made proof stays as it was made", Sample.proofHex(x, 0), latest);
         x.prove(1, 2);
-        due.equal("8: a new one is of leaves as they stand", proofHex(x, 0), leafHex(x, 0));
+        due.equal("8: a new one is of leaves as they stand", Sample.proofHex(x, 0), Sample.leafHex(x, 0));
     }
 
     private void promise8EveryProof() {
         for (int n = 1; n <= 24; n++) {
             for (int leaf = 0; leaf < n; leaf++) {
-                ProofLeaves x = withLeaves(n);
+                ProofLeaves x = Sample.withLeaves(n);
                 x.close();
                 String what = "8: leaf " + leaf + " of " + n;
-                List<byte[]> path = Model.path(leaf, plainLeaves(n));
+                List<byte[]> path = Model.path(leaf, Sample.plainLeaves(n));
                 due.equal(what, x.prove(leaf, 0), path.size());
                 for (int k = 0; k < path.size(); k++) {
-                    due.equal(what + ", digest " + k, proofHex(x, k), hex(path.get(k)));
+                    due.equal(what + ", digest " + k, Sample.proofHex(x, k), Sample.hex(path.get(k)));
                 }
                 due.equal(what + ", checked", x.check(leaf, 0, leaf, n), 0);
             }
@@ -335,13 +263,13 @@ public final class PromiseTest {
     }
 
     private void promise9Proof() {
-        ProofLeaves x = withLeaves(7);
+        ProofLeaves x = Sample.withLeaves(7);
         x.close();
         x.prove(6, 0);
-        byte[] second = Model.node(bytesOf(x, 4), bytesOf(x, 5));
-        byte[] first = Model.tree(firstLeaves(x, 4));
-        due.equal("9: the innermost first", proofHex(x, 0), hex(second));
-        due.equal("9: the outermost last", proofHex(x, 1), hex(first));
+        byte[] second = Model.node(Sample.leafBytes(x, 4), Sample.leafBytes(x, 5));
+        byte[] first = Model.tree(Sample.firstLeaves(x, 4));
+        due.equal("9: the innermost first", Sample.proofHex(x, 0), Sample.hex(second));
+        due.equal("9: the outermost last", Sample.proofHex(x, 1), Sample.hex(first));
         for (int i : NO_BYTES) {
             due.thrown("9: proof(0, " + i + ")", INDEX, () -> x.proof(0, i));
         }
@@ -349,20 +277,20 @@ public final class PromiseTest {
             due.thrown("9: proof(" + k + ", 0)", INDEX, () -> x.proof(k, 0));
         }
         x.prove(0, 0);
-        due.equal("9: only the latest", proofHex(x, 0), leafHex(x, 1));
+        due.equal("9: only the latest", Sample.proofHex(x, 0), Sample.leafHex(x, 1));
     }
 
     private void promise10Bend() {
-        ProofLeaves x = withLeaves(5);
+        ProofLeaves x = Sample.withLeaves(5);
         x.close();
         x.prove(1, 0);
         int before = x.proof(1, 31);
-        String others = proofHex(x, 0) + proofHex(x, 2);
+        String others = Sample.proofHex(x, 0) + Sample.proofHex(x, 2);
         x.bend(1, 31, 255);
         due.equal("10: bent", x.proof(1, 31), before ^ 255);
         x.bend(1, 31, 1);
         due.equal("10: bent again", x.proof(1, 31), before ^ 254);
-        due.equal("10: the others stay", proofHex(x, 0) + proofHex(x, 2), others);
+        due.equal("10: the others stay", Sample.proofHex(x, 0) + Sample.proofHex(x, 2), others);
         due.equal("10: the checker sees it", x.check(1, 0, 1, 5), 3);
         for (int mask : NO_MASKS) {
             due.thrown("10: bend(0, 0, " + mask + ")", RANGE, () -> x.bend(0, 0, mask));
@@ -373,23 +301,24 @@ public final class PromiseTest {
             due.thrown("10: bend(0, " + i + ", 1)", INDEX, () -> x.bend(0, i, 1));
         }
         due.thrown("10: bend(-1, 0, 1)", INDEX, () -> x.bend(-1, 0, 1));
-        due.equal("10: nothing was bent by these", proofHex(x, 0) + proofHex(x, 2), others);
+        due.equal("10: nothing was bent by these", Sample.proofHex(x, 0) + Sample.proofHex(x, 2), others);
         x.bend(1, 31, 254);
         due.equal("10: bent back", x.check(1, 0, 1, 5), 0);
-        due.equal("10: a leaf's digest is left alone", leafHex(x, 0), proofHex(x, 0));
+        due.equal("10: a leaf's digest is left alone", Sample.leafHex(x, 0), Sample.proofHex(x, 0));
         x.bend(0, 0, 128);
-        due.equal("10: a leaf's digest is left alone", leafHex(x, 0), hex(Model.leafDigest(new byte[] {0})));
+        due.equal("10: a leaf's digest is left alone",
+                Sample.leafHex(x, 0), Sample.hex(Model.leafDigest(new byte[] {0})));
         x.prove(0, 0);
         x.prove(1, 0);
         due.equal("10: a new proof is straight", x.check(1, 0, 1, 5), 0);
-        ProofLeaves one = withLeaves(1);
+        ProofLeaves one = Sample.withLeaves(1);
         one.close();
         one.prove(0, 0);
         due.thrown("10: a proof of no digests", INDEX, () -> one.bend(0, 0, 1));
     }
 
     private void promise11Check() {
-        ProofLeaves x = withLeaves(6);
+        ProofLeaves x = Sample.withLeaves(6);
         x.close();
         due.thrown("11: there is no proof", TURN, () -> x.check(0, 0, 0, 6));
         due.thrown("11: turn ahead of range", TURN, () -> x.check(0, 0, -1, 6));
@@ -422,7 +351,7 @@ public final class PromiseTest {
         x.poke(5, 0, 1);
         due.equal("11: poked back", x.check(5, 0, 5, 6), 0);
 
-        ProofLeaves one = withLeaves(1);
+        ProofLeaves one = Sample.withLeaves(1);
         one.close();
         one.prove(0, 0);
         due.equal("11: a proof of no digests is one", one.check(0, 0, 0, 1), 0);
@@ -431,7 +360,7 @@ public final class PromiseTest {
     private void promise11EveryToldNumber() {
         for (int n = 1; n <= 24; n++) {
             for (int leaf = 0; leaf < n; leaf++) {
-                ProofLeaves x = withLeaves(n);
+                ProofLeaves x = Sample.withLeaves(n);
                 x.close();
                 int length = x.prove(leaf, 0);
                 for (int number = 0; number < n; number++) {
@@ -446,10 +375,10 @@ public final class PromiseTest {
     private void promise12Grew() {
         ProofLeaves x = new ProofLeaves();
         x.close();
-        addLeaves(x, 3);
+        Sample.addLeaves(x, 3);
         x.close();
         x.close();
-        addLeaves(x, 4);
+        Sample.addLeaves(x, 4);
         x.close();
         for (int from = 0; from < 4; from++) {
             for (int to = from; to < 4; to++) {
@@ -475,7 +404,7 @@ public final class PromiseTest {
     }
 
     private void promise13Withdraw() {
-        ProofLeaves x = withLeaves(23);
+        ProofLeaves x = Sample.withLeaves(23);
         x.feed(0, 1);
         x.leaf();
         for (int leaf : new int[] {-1, 24, Integer.MIN_VALUE, Integer.MAX_VALUE}) {
@@ -487,7 +416,7 @@ public final class PromiseTest {
             due.thrown("13: it is already", MEANING, () -> x.withdraw(leaf));
             due.thrown("13: it is not absent", TURN, () -> x.absence(leaf, 0));
         }
-        ProofLeaves y = withLeaves(2);
+        ProofLeaves y = Sample.withLeaves(2);
         due.equal("13: one", y.withdraw(0), 1);
         due.thrown("13: one again", MEANING, () -> y.withdraw(0));
         due.equal("13: a throw counts none", y.withdraw(1), 2);
@@ -495,24 +424,8 @@ public final class PromiseTest {
         due.equal("13: a later one", y.withdraw(2), 3);
     }
 
-    /** Leaves whose digests are poked to 0 but for the first byte and the last. */
-    private static ProofLeaves withDigests(int[]... firstAndLast) {
-        ProofLeaves x = new ProofLeaves();
-        for (int leaf = 0; leaf < firstAndLast.length; leaf++) {
-            x.leaf();
-            for (int i = 0; i < 32; i++) {
-                int want = i == 0 ? firstAndLast[leaf][0] : i == 31 ? firstAndLast[leaf][1] : 0;
-                int mask = x.digest(leaf, i) ^ want;
-                if (mask != 0) {
-                    x.poke(leaf, i, mask);
-                }
-            }
-        }
-        return x;
-    }
-
     private void promise14Absence() {
-        ProofLeaves x = withDigests(new int[][] {{100, 0}, {200, 0}, {100, 9}, {50, 255}, {255, 1}});
+        ProofLeaves x = Sample.withDigests(new int[][] {{100, 0}, {200, 0}, {100, 9}, {50, 255}, {255, 1}});
         due.equal("14: none withdrawn, below", x.absence(0, 0), -1);
         due.equal("14: none withdrawn, above", x.absence(0, 1), -1);
         x.withdraw(1);
@@ -539,7 +452,7 @@ public final class PromiseTest {
     }
 
     private void promise14SameDigests() {
-        ProofLeaves x = withDigests(new int[][] {{9, 0}, {5, 0}, {7, 0}, {5, 0}, {9, 0}, {7, 0}, {7, 0}});
+        ProofLeaves x = Sample.withDigests(new int[][] {{9, 0}, {5, 0}, {7, 0}, {5, 0}, {9, 0}, {7, 0}, {7, 0}});
         x.withdraw(4);
         x.withdraw(3);
         due.equal("14: one below", x.absence(2, 0), 3);
@@ -557,9 +470,9 @@ public final class PromiseTest {
     private void promise15Mark() {
         long[][] keys = {{0, 0}, {1, 2}, {2, 1}, {-1, Long.MIN_VALUE}, {0x0123456789abcdefL, 0xfedcba9876543210L}};
         for (long[] key : keys) {
-            ProofLeaves x = withLeaves(2);
+            ProofLeaves x = Sample.withLeaves(2);
             for (int leaf = 0; leaf < 2; leaf++) {
-                byte[] inner = Model.sha(Model.eight(key[0]), bytesOf(x, leaf));
+                byte[] inner = Model.sha(Model.eight(key[0]), Sample.leafBytes(x, leaf));
                 byte[] want = Model.sha(Model.eight(key[1]), inner);
                 for (int i = 0; i < 32; i++) {
                     due.equal("15: mark(" + leaf + ", " + key[0] + ", " + key[1] + ", " + i + ")",
@@ -567,9 +480,9 @@ public final class PromiseTest {
                 }
             }
         }
-        ProofLeaves x = withLeaves(2);
+        ProofLeaves x = Sample.withLeaves(2);
         x.poke(1, 4, 8);
-        byte[] inner = Model.sha(Model.eight(3), bytesOf(x, 1));
+        byte[] inner = Model.sha(Model.eight(3), Sample.leafBytes(x, 1));
         due.equal("15: of the digest as it stands", x.mark(1, 3, 4, 0), Model.sha(Model.eight(4), inner)[0] & 255);
         for (int i : NO_BYTES) {
             due.thrown("15: mark(0, 1, 2, " + i + ")", INDEX, () -> x.mark(0, 1, 2, i));
@@ -580,19 +493,20 @@ public final class PromiseTest {
     }
 
     private void promise16Poke() {
-        ProofLeaves x = withLeaves(3);
+        ProofLeaves x = Sample.withLeaves(3);
         x.close();
-        String root = rootHex(x, 0);
+        String root = Sample.rootHex(x, 0);
         int before = x.digest(1, 31);
-        String others = leafHex(x, 0) + leafHex(x, 2);
+        String others = Sample.leafHex(x, 0) + Sample.leafHex(x, 2);
         x.poke(1, 31, 255);
         due.equal("16: poked", x.digest(1, 31), before ^ 255);
         x.poke(1, 31, 1);
         due.equal("16: poked again", x.digest(1, 31), before ^ 254);
-        due.equal("16: other leaves stay", leafHex(x, 0) + leafHex(x, 2), others);
-        due.equal("16: a day's root stays", rootHex(x, 0), root);
+        due.equal("16: other leaves stay", Sample.leafHex(x, 0) + Sample.leafHex(x, 2), others);
+        due.equal("16: a day's root stays", Sample.rootHex(x, 0), root);
         x.close();
-        due.equal("16: a new day is of digests as they stand", rootHex(x, 1), hex(Model.tree(firstLeaves(x, 3))));
+        due.equal("16: a new day is of digests as they stand",
+                Sample.rootHex(x, 1), Sample.hex(Model.tree(Sample.firstLeaves(x, 3))));
         for (int mask : NO_MASKS) {
             due.thrown("16: poke(0, 0, " + mask + ")", RANGE, () -> x.poke(0, 0, mask));
             due.thrown("16: index ahead of range", INDEX, () -> x.poke(3, 0, mask));
@@ -604,12 +518,12 @@ public final class PromiseTest {
         for (int leaf : new int[] {-1, 3, 24, Integer.MIN_VALUE, Integer.MAX_VALUE}) {
             due.thrown("16: poke(" + leaf + ", 0, 1)", INDEX, () -> x.poke(leaf, 0, 1));
         }
-        due.equal("16: nothing was poked by these", leafHex(x, 0) + leafHex(x, 2), others);
+        due.equal("16: nothing was poked by these", Sample.leafHex(x, 0) + Sample.leafHex(x, 2), others);
 
-        ProofLeaves one = withLeaves(1);
+        ProofLeaves one = Sample.withLeaves(1);
         one.close();
-        String alone = rootHex(one, 0);
+        String alone = Sample.rootHex(one, 0);
         one.poke(0, 0, 77);
-        due.equal("16: the root of one leaf stays too", rootHex(one, 0), alone);
+        due.equal("16: the root of one leaf stays too", Sample.rootHex(one, 0), alone);
     }
 }
